@@ -625,6 +625,9 @@ public final class BeltFloor {
         final Robot first = new Robot();
         final Robot second = new Robot();
         long crates;
+        /** The cells of the kinds that a step has to do with, so that it need not look at every cell. */
+        long belts;
+        long pits;
         int checkpointCount;
         int addedCrates;
         int takenCrates;
@@ -642,6 +645,8 @@ public final class BeltFloor {
             first.makeNew(FIRST_CELL_OF_0);
             second.makeNew(FIRST_CELL_OF_1);
             crates = 0L;
+            belts = 0L;
+            pits = 0L;
             checkpointCount = 0;
             addedCrates = 0;
             takenCrates = 0;
@@ -659,6 +664,8 @@ public final class BeltFloor {
             first.copyFrom(other.first);
             second.copyFrom(other.second);
             crates = other.crates;
+            belts = other.belts;
+            pits = other.pits;
             checkpointCount = other.checkpointCount;
             addedCrates = other.addedCrates;
             takenCrates = other.takenCrates;
@@ -720,13 +727,19 @@ public final class BeltFloor {
             return isBlockOrPit(cell) || Grid.holds(crates, cell) || robot(1 - robot).cell == cell;
         }
 
-        /** Changes a kind, if nothing refuses it; returns whether it did. So do the three below it. */
+        /** Changes a kind, if nothing refuses it; returns whether it did. So do the next three with what they add. */
         boolean giveKind(int cell, int kind) {
             if (refusesKind(cell, kind) || cell < 0 || cell >= kinds.length) {
                 return false;
             }
             kinds[cell] = kind;
+            belts = with(belts, cell, kind >= BELT_NORTH);
+            pits = with(pits, cell, kind == PIT);
             return true;
+        }
+
+        private static long with(long cells, int cell, boolean isIn) {
+            return isIn ? cells | Grid.setOf(cell) : cells & ~Grid.setOf(cell);
         }
 
         boolean layCrate(int cell) {
@@ -850,10 +863,11 @@ public final class BeltFloor {
             } else if (way == 0L) {
                 robot.bumps++;
             } else {
-                pushRow(floor, other, rowOf(floor, robot, way), direction);
-                robot.pushes += Long.bitCount(rowOf(floor, robot, way));
+                long row = rowOf(floor, robot, way);
+                pushRow(floor, other, row, direction);
                 robot.cell = Grid.beside(robot.cell, direction);
                 robot.moves++;
+                robot.pushes += Long.bitCount(row);
             }
             robot.comeToNextPlace();
         }
@@ -878,7 +892,8 @@ public final class BeltFloor {
         /** The cells of all things that are carried. */
         private static long carriedThings(Floor floor) {
             long things = floor.things();
-            long carried = carriedIfUnhindered(floor, things);
+            long onBelts = things & floor.belts;
+            long carried = carriedIfUnhindered(floor, onBelts, wantedTwice(floor, onBelts));
             // A round that takes no thing out is the last one.
             for (int round = 0; round < CELLS; round++) {
                 long held = heldUp(floor, carried, things & ~carried);
@@ -890,31 +905,39 @@ public final class BeltFloor {
             return carried;
         }
 
-        /** The things that want to be carried, but for those that want to the same cell or would change places. */
-        private static long carriedIfUnhindered(Floor floor, long things) {
-            long wanted = 0L;
-            long wantedTwice = 0L;
-            for (int cell = 0; cell < CELLS; cell++) {
-                long target = Grid.holds(things, cell) ? Grid.setOf(beltTarget(floor, cell)) : 0L;
-                wantedTwice |= wanted & target;
-                wanted |= target;
-            }
+        /** The things on belts, but for those that would come to the same cell or change places. */
+        private static long carriedIfUnhindered(Floor floor, long onBelts, long wantedTwice) {
             long carried = 0L;
-            for (int cell = 0; cell < CELLS; cell++) {
-                int target = beltTarget(floor, cell);
-                boolean changingPlaces = Grid.holds(things, target) && beltTarget(floor, target) == cell;
-                if (Grid.holds(things, cell) && target != NONE && !Grid.holds(wantedTwice, target)
-                        && !changingPlaces) {
-                    carried |= Grid.setOf(cell);
+            for (int cell = 0; onBelts != 0L && cell < CELLS; cell++) {
+                if (Grid.holds(onBelts, cell)) {
+                    int target = beltTarget(floor, cell);
+                    boolean changingPlaces = Grid.holds(onBelts, target) && beltTarget(floor, target) == cell;
+                    if (target != NONE && !Grid.holds(wantedTwice, target) && !changingPlaces) {
+                        carried |= Grid.setOf(cell);
+                    }
                 }
             }
             return carried;
         }
 
+        /** The cells to which two things or more want to be carried. */
+        private static long wantedTwice(Floor floor, long onBelts) {
+            long wanted = 0L;
+            long twice = 0L;
+            for (int cell = 0; onBelts != 0L && cell < CELLS; cell++) {
+                if (Grid.holds(onBelts, cell)) {
+                    long target = Grid.setOf(beltTarget(floor, cell));
+                    twice |= wanted & target;
+                    wanted |= target;
+                }
+            }
+            return twice;
+        }
+
         /** Those of the carried things that would come to a thing that is not carried. */
         private static long heldUp(Floor floor, long carried, long resting) {
             long held = 0L;
-            for (int cell = 0; cell < CELLS; cell++) {
+            for (int cell = 0; carried != 0L && cell < CELLS; cell++) {
                 if (Grid.holds(carried, cell) && Grid.holds(resting, beltTarget(floor, cell))) {
                     held |= Grid.setOf(cell);
                 }
@@ -924,7 +947,7 @@ public final class BeltFloor {
 
         private static void carryAll(Floor floor, long carried) {
             long crates = floor.crates & ~carried;
-            for (int cell = 0; cell < CELLS; cell++) {
+            for (int cell = 0; carried != 0L && cell < CELLS; cell++) {
                 if (Grid.holds(floor.crates & carried, cell)) {
                     crates |= Grid.setOf(beltTarget(floor, cell));
                 }
@@ -941,12 +964,9 @@ public final class BeltFloor {
         }
 
         private static void loseCrates(Floor floor) {
-            for (int cell = 0; cell < CELLS; cell++) {
-                if (floor.kindAt(cell) == PIT && Grid.holds(floor.crates, cell)) {
-                    floor.crates &= ~Grid.setOf(cell);
-                    floor.lostCrates++;
-                }
-            }
+            long falling = floor.crates & floor.pits;
+            floor.crates &= ~falling;
+            floor.lostCrates += Long.bitCount(falling);
         }
 
         private static void letFall(Floor floor, Robot robot) {
@@ -1200,7 +1220,8 @@ public final class BeltFloor {
         }
 
         private boolean isDigit(int at, int most) {
-            return digitAt(at) >= 0 && digitAt(at) <= most;
+            int sign = signAt(at);
+            return sign >= '0' && sign <= '0' + most;
         }
 
         private int digitAt(int at) {
