@@ -14,6 +14,7 @@ final class ActionsTest {
         wipe();
         step();
         undoTakesBackEachAction();
+        undoTakesBackEachCount();
         undoRemembersFourteen();
         undoAfterExceptions();
         actionsThatChangeNothing();
@@ -243,6 +244,27 @@ final class ActionsTest {
         Check.badState("undo", () -> f.undo());
         f.step(1);
         Check.same("undo of what came later", f.undo(), 0);
+    }
+
+    private static void undoTakesBackEachCount() {
+        // The robot 0 pushes a crate into a pit, and bumps; the robot 1 falls again and again.
+        BeltFloor f = Floors.of("...... ...... ...o.. ...... ...... ......", "r0121c13c14i00.r1002i110.");
+        f.setKind(6, 2);
+        String[] before = new String[12];
+        for (int n = 0; n < before.length; n++) {
+            before[n] = Floors.picture(f);
+            f.step(1);
+        }
+        Check.same("moves", f.movesOf(0) > 0, true);
+        Check.same("pushes", f.pushesOf(0) > 0, true);
+        Check.same("lost", f.lost() > 0, true);
+        Check.same("bumps", f.bumpsOf(1) > 0, true);
+        Check.same("falls", f.fallsOf(0) > 0, true);
+        for (int n = before.length - 1; n >= 0; n--) {
+            f.undo();
+            Check.same("as before the step " + n, Floors.picture(f).equals(before[n]), true);
+        }
+        Check.same("steps", f.steps(), 0);
     }
 
     private static void undoRemembersFourteen() {

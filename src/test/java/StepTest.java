@@ -222,6 +222,10 @@ final class StepTest {
         afterOne("...... www... ...... ...... ...... ......", "c07c08", "30n 35n c6 c7");
         afterOne("...... www... ...... ...... ...... ......", "c06c07c08", "30n 35n c6 c7 c8");
         afterOne("...... eee... ...... ...... ...... ......", "c06c08", "30n 35n c7 c9");
+        afterOne("eee... ...... ...... ...... ...... ......", "c00c01c02c03", "30n 35n c0 c1 c2 c3");
+        afterOne("eee... ...... ...... ...... ...... ......", "c00c01c02", "30n 35n c1 c2 c3");
+        afterOne("...... ...... ...... .....s .....s .....s", "r1340c35c29c23", "30n 34n c23 c29 c35");
+        afterOne("...... ...... ...... .....n .....n .....n", "c29c23", "30n 29n c17 c23");
         // Two want to the same cell: they are not carried, nor are those behind them.
         afterOne("...... ee.ww. ...... ...... ...... ......", "c06c07c09c10", "30n 35n c6 c7 c9 c10");
         afterOne("...... ee.ww. ...... ...... ...... ......", "c06c07c10", "30n 35n c7 c8 c9");

@@ -10,6 +10,7 @@ final class TextTest {
         errorInFullTexts();
         loadGivesWhatTheTextSays();
         loadMakesEverythingNew();
+        loadMakesNewWhatItLeavesOut();
         loadLeavesOut();
         loadLeavesOutWhatIsTooMuch();
         loadGoesInOrder();
@@ -186,8 +187,10 @@ final class TextTest {
         f.addCrate(7);
         f.takeCrate(7);
         f.addCheckpoint(18);
-        f.putRobot(1, 12, 0);
+        f.putRobot(1, 12, 3);
+        f.putRobot(0, 30, 0);
         f.write(0, 0);
+        f.write(0, 3);
         f.write(1, 0);
         f.write(1, 0);
         f.step(3);
@@ -205,6 +208,28 @@ final class TextTest {
         Check.same("length", f.clearText(), 37);
         f.addCrate(8);
         Check.same("undo behind load and an action", f.undo(), 0);
+    }
+
+    /** A cell whose kind is left out is floor, as in a new object, and no belt or pit from before. */
+    private static void loadMakesNewWhatItLeavesOut() {
+        BeltFloor f = new BeltFloor();
+        f.setKind(30, 3);
+        f.putRobot(1, 0, 0);
+        f.setKind(35, 2);
+        Floors.type(f, "F..............................#....o");
+        Check.same("left out", f.load(), 2);
+        Check.same("kind of 30", f.kindOf(30), 0);
+        Check.same("kind of 35", f.kindOf(35), 0);
+        f.step(1);
+        Check.same("it is not carried", f.cellOf(0), 30);
+        Check.same("it does not fall", f.fallsOf(1), 0);
+        f.putRobot(0, 20, 0);
+        f.putRobot(1, 21, 0);
+        f.addCrate(30);
+        f.addCrate(35);
+        f.step(1);
+        Check.same("a crate stays", f.hasCrate(30), true);
+        Check.same("another one stays", f.hasCrate(35), true);
     }
 
     private static int leftOut(String text) {

@@ -14,6 +14,7 @@ final class WouldBeTest {
         loopsOfAllParts();
         loopsFromLater();
         fewest();
+        fewestAgain();
         fewestRoundBlocksAndPits();
         fewestWhatDoesNotMatter();
         fewestWrong();
@@ -211,6 +212,25 @@ final class WouldBeTest {
         fewest(h, 0, 12, 2);
         fewest(h, 0, 2, 3);
         fewest(h, 0, 32, 4);
+    }
+
+    /** Neither way may lean on what was found before. */
+    private static void fewestAgain() {
+        BeltFloor f = new BeltFloor();
+        Check.same("sweeping", f.fewestBySweeping(0, 35), 6);
+        f.putRobot(0, 0, 2);
+        Check.same("sweeping from elsewhere", f.fewestBySweeping(0, 35), 11);
+        f.setKind(1, 1);
+        f.setKind(6, 1);
+        Check.same("sweeping with blocks round it", f.fewestBySweeping(0, 35), -1);
+        f.undo();
+        f.undo();
+        Check.same("spreading from elsewhere", f.fewestBySpreading(0, 35), 11);
+        f.setKind(1, 2);
+        f.setKind(6, 2);
+        Check.same("spreading with pits round it", f.fewestBySpreading(0, 35), -1);
+        Check.same("spreading for the other one", f.fewestBySpreading(1, 34), 2);
+        Check.same("sweeping for the other one", f.fewestBySweeping(1, 34), 2);
     }
 
     private static void fewestRoundBlocksAndPits() {
