@@ -2,7 +2,7 @@ import java.util.Random;
 
 /** Long runs of calls, compared with the document told again in NaiveFloor; all promises. */
 final class RandomRunsTest {
-    private static final int RUNS = 3000;
+    private static final int RUNS = 1500;
     private static final int CALLS = 120;
 
     private static Random dice;
@@ -175,6 +175,11 @@ final class RandomRunsTest {
         compare(run + " sweep " + r + " " + c, () -> f.fewestBySweeping(r, c), () -> n.fewestBySweeping(r, c));
         compare(run + " simulate " + seed + " " + m, () -> f.simulate(seed, m), () -> n.simulate(seed, m));
         everything(run, f, n);
+        for (int cell = 0; cell < 36; cell++) {
+            int to = cell;
+            compare(run + " both ways from 0 to " + to, () -> f.fewestBySweeping(0, to), () -> f.fewestBySpreading(0, to));
+            compare(run + " both ways from 1 to " + to, () -> f.fewestBySweeping(1, to), () -> f.fewestBySpreading(1, to));
+        }
     }
 
     private static void everything(String run, BeltFloor f, NaiveFloor n) {
