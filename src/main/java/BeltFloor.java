@@ -795,7 +795,7 @@ public final class BeltFloor {
         }
     }
 
-    /** What happens in a step. A way is a set of cells; it is empty if the robot is blocked or does not want to move. */
+    /** What happens in a step. A way is a set of cells: the empty one if the robot is blocked or does not move. */
     private static final class Step {
         private Step() {
         }
@@ -879,7 +879,7 @@ public final class BeltFloor {
             }
         }
 
-        /** The cell to which the belt on a cell leads; NONE without a belt, or if it leads to a block or off the floor. */
+        /** The cell to which the belt on a cell leads; NONE without a belt, before a block, and at the edge. */
         private static int beltTarget(Floor floor, int cell) {
             int direction = floor.kindAt(cell) - BELT_NORTH;
             if (direction < 0) {
