@@ -1,3 +1,6 @@
+import java.util.Collections;
+import java.util.List;
+
 /** Promises 25 to 31 and 33; the steps themselves are in StepTest. */
 final class ActionsTest {
     private static final int[] WRONG_ROBOTS = {-1, 2, Integer.MIN_VALUE, Integer.MAX_VALUE};
@@ -216,55 +219,38 @@ final class ActionsTest {
     }
 
     private static void undoTakesBackEachAction() {
-        BeltFloor f = Floors.of("..eo.. ...... ...... ...... ...... ......", "i000.c02p24p18r0300");
-        String[] before = new String[9];
-        int n = 0;
-        before[n++] = Floors.picture(f);
-        f.setKind(9, 5);
-        before[n++] = Floors.picture(f);
-        f.addCrate(24);
-        before[n++] = Floors.picture(f);
-        f.step(1);
-        before[n++] = Floors.picture(f);
-        f.takeCrate(18);
-        before[n++] = Floors.picture(f);
-        f.addCheckpoint(1);
-        before[n++] = Floors.picture(f);
-        f.putRobot(1, 33, 3);
-        before[n++] = Floors.picture(f);
-        f.write(1, 0);
-        before[n++] = Floors.picture(f);
-        f.step(2);
-        before[n++] = Floors.picture(f);
-        f.wipe(0);
-        for (int left = 8; left >= 0; left--) {
-            Check.same("undo", f.undo(), left);
-            Check.same("as before", Floors.picture(f).equals(before[left]), true);
-        }
-        Check.badState("undo", () -> f.undo());
-        f.step(1);
-        Check.same("undo of what came later", f.undo(), 0);
+        undoTakesBack(f -> {
+            Floors.type(f, "F..eo................................i000.c02p24p18r0300");
+            f.load();
+        }, List.of(f -> f.setKind(9, 5), f -> f.addCrate(24), f -> f.step(1), f -> f.takeCrate(18),
+                f -> f.addCheckpoint(1), f -> f.putRobot(1, 33, 3), f -> f.write(1, 0), f -> f.step(2), f -> f.wipe(0)));
     }
 
+    /** The robot 0 pushes a crate into a pit, and bumps; the robot 1 falls again and again. */
     private static void undoTakesBackEachCount() {
-        // The robot 0 pushes a crate into a pit, and bumps; the robot 1 falls again and again.
-        BeltFloor f = Floors.of("...... ...... ...o.. ...... ...... ......", "r0121c13c14i00.r1002i110.");
-        f.setKind(6, 2);
-        String[] before = new String[12];
-        for (int n = 0; n < before.length; n++) {
-            before[n] = Floors.picture(f);
-            f.step(1);
+        undoTakesBack(f -> {
+            Floors.type(f, "F...............o....................r0121c13c14i00.r1002i110.");
+            f.load();
+            f.setKind(6, 2);
+        }, Collections.nCopies(12, f -> f.step(1)));
+    }
+
+    /** Behind undo of the last ones, all is as it was when only the others had been made. */
+    private static void undoTakesBack(Whole.Script start, List<Whole.Call> actions) {
+        for (int made = 0; made <= actions.size(); made++) {
+            BeltFloor due = Whole.after(start);
+            for (Whole.Call action : actions.subList(0, made)) {
+                action.on(due);
+            }
+            BeltFloor f = Whole.after(start);
+            for (Whole.Call action : actions) {
+                action.on(f);
+            }
+            for (int undone = made; undone < actions.size(); undone++) {
+                f.undo();
+            }
+            Check.same("as behind " + made + " actions", Floors.picture(f), Floors.picture(due));
         }
-        Check.same("moves", f.movesOf(0) > 0, true);
-        Check.same("pushes", f.pushesOf(0) > 0, true);
-        Check.same("lost", f.lost() > 0, true);
-        Check.same("bumps", f.bumpsOf(1) > 0, true);
-        Check.same("falls", f.fallsOf(0) > 0, true);
-        for (int n = before.length - 1; n >= 0; n--) {
-            f.undo();
-            Check.same("as before the step " + n, Floors.picture(f).equals(before[n]), true);
-        }
-        Check.same("steps", f.steps(), 0);
     }
 
     private static void undoRemembersFourteen() {

@@ -6,21 +6,43 @@ final class Check {
 
     private static int right = 0;
     private static int wrong = 0;
+    private static String about = "";
 
     private Check() {
+    }
+
+    /** Names what the following checks are about; it is printed with each wrong one. */
+    static void about(String words) {
+        about = words.isEmpty() ? "" : "[" + words + "] ";
+    }
+
+    static int made() {
+        return right + wrong;
+    }
+
+    static void fail(String what) {
+        wrong++;
+        System.out.println(about + what);
     }
 
     static void same(String what, long got, long due) {
         if (got == due) {
             right++;
         } else {
-            wrong++;
-            System.out.println(what + " answered " + got + ", due is " + due);
+            fail(what + " answered " + got + ", due is " + due);
         }
     }
 
     static void same(String what, boolean got, boolean due) {
         same(what, got ? 1 : 0, due ? 1 : 0);
+    }
+
+    static void same(String what, String got, String due) {
+        if (got.equals(due)) {
+            right++;
+        } else {
+            fail(what + ": " + got + ", due is: " + due);
+        }
     }
 
     static void noCell(String what, Call call) {
@@ -37,13 +59,7 @@ final class Check {
 
     /** The exact class is due: the machine's own index exceptions are kinds of IndexOutOfBoundsException. */
     static void throwing(String what, Call call, String due) {
-        String got = outcome(call);
-        if (got.equals("throws " + due)) {
-            right++;
-        } else {
-            wrong++;
-            System.out.println(what + ": " + got + ", due is " + due);
-        }
+        same(what, outcome(call), "throws " + due);
     }
 
     /** What a call comes to, as a text. */

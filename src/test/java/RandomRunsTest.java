@@ -1,35 +1,37 @@
 import java.util.Random;
 
-/** Long runs of calls, compared with the document told again in NaiveFloor; all promises. */
+/** Runs of as many calls as an object is used for, compared with the document told again in NaiveFloor; all promises. */
 final class RandomRunsTest {
-    private static final int RUNS = 1500;
-    private static final int CALLS = 120;
+    private static final int RUNS = 4000;
+    private static final int MOST_CALLS = 512;
+    /** What everything() and wouldBe() call at the most. */
+    private static final int CALLS_OF_EVERYTHING = 180;
+    private static final int CALLS_OF_WOULD_BE = 48;
 
     private static Random dice;
+    private static int calls;
 
     public static void main(String[] args) {
         for (int run = 0; run < RUNS; run++) {
             dice = new Random(run);
+            calls = 0;
             BeltFloor f = new BeltFloor();
             NaiveFloor n = new NaiveFloor();
             if (dice.nextInt(3) > 0) {
                 readText(run, f, n);
             }
-            for (int i = 0; i < CALLS; i++) {
-                call("run " + run + " call " + i, f, n);
+            while (calls + CALLS_OF_WOULD_BE + CALLS_OF_EVERYTHING <= MOST_CALLS) {
+                call("run " + run + " call " + calls, f, n);
             }
             everything("run " + run, f, n);
+            Check.same("more calls than an object is used for", calls <= MOST_CALLS, true);
         }
         Check.end();
     }
 
     private static void compare(String what, Check.Call one, Check.Call other) {
-        String got = Check.outcome(one);
-        String due = Check.outcome(other);
-        if (!got.equals(due)) {
-            System.out.println(what + ": " + got + ", due: " + due);
-        }
-        Check.same(what, got.equals(due), true);
+        calls++;
+        Check.same(what, Check.outcome(one), Check.outcome(other));
     }
 
     private static int oneOf(int... numbers) {
@@ -105,7 +107,6 @@ final class RandomRunsTest {
         type(what, text, f, n);
         compare(what + " errorPosition", () -> f.errorPosition(), () -> n.errorPosition());
         compare(what + " load", () -> f.load(), () -> n.load());
-        everything(what, f, n);
         if (dice.nextInt(10) == 0) {
             compare(what + " clearText", () -> f.clearText(), () -> n.clearText());
         }
@@ -142,7 +143,21 @@ final class RandomRunsTest {
             }
             case 13 -> undoOrSave(run, f, n);
             case 14 -> wouldBe(run, f, n);
-            default -> everything(run, f, n);
+            default -> look(run, f, n);
+        }
+    }
+
+    /** Where things are, and what is counted: a few cells alone. */
+    private static void look(String run, BeltFloor f, NaiveFloor n) {
+        for (int i = 0; i < 6; i++) {
+            int c = cell(n);
+            compare(run + " hasCrate " + c, () -> f.hasCrate(c) ? 1 : 0, () -> n.hasCrate(c) ? 1 : 0);
+        }
+        compare(run + " cratesByCells", () -> f.cratesByCells(), () -> n.cratesByCells());
+        compare(run + " cratesByAccounts", () -> f.cratesByAccounts(), () -> n.cratesByAccounts());
+        compare(run + " lost", () -> f.lost(), () -> n.lost());
+        for (int robot = 0; robot < 2; robot++) {
+            robot(run + " robot " + robot, robot, f, n);
         }
     }
 
@@ -174,11 +189,9 @@ final class RandomRunsTest {
         compare(run + " spread " + r + " " + c, () -> f.fewestBySpreading(r, c), () -> n.fewestBySpreading(r, c));
         compare(run + " sweep " + r + " " + c, () -> f.fewestBySweeping(r, c), () -> n.fewestBySweeping(r, c));
         compare(run + " simulate " + seed + " " + m, () -> f.simulate(seed, m), () -> n.simulate(seed, m));
-        everything(run, f, n);
-        for (int cell = 0; cell < 36; cell++) {
-            int to = cell;
-            compare(run + " both ways from 0 to " + to, () -> f.fewestBySweeping(0, to), () -> f.fewestBySpreading(0, to));
-            compare(run + " both ways from 1 to " + to, () -> f.fewestBySweeping(1, to), () -> f.fewestBySpreading(1, to));
+        for (int i = 0; i < 20; i++) {
+            int to = dice.nextInt(36);
+            compare(run + " both ways to " + to, () -> f.fewestBySweeping(to % 2, to), () -> n.fewestBySpreading(to % 2, to));
         }
     }
 
@@ -199,6 +212,7 @@ final class RandomRunsTest {
         }
         for (int robot = -1; robot <= 2; robot++) {
             robot(run + " robot " + robot, robot, f, n);
+            program(run + " robot " + robot, robot, f, n);
         }
     }
 
@@ -213,6 +227,9 @@ final class RandomRunsTest {
         compare(run + " fallsOf", () -> f.fallsOf(r), () -> n.fallsOf(r));
         compare(run + " lengthOf", () -> f.lengthOf(r), () -> n.lengthOf(r));
         compare(run + " placeOf", () -> f.placeOf(r), () -> n.placeOf(r));
+    }
+
+    private static void program(String run, int r, BeltFloor f, NaiveFloor n) {
         for (int place = -1; place <= 10; place++) {
             int p = place;
             compare(run + " instructionAt " + p, () -> f.instructionAt(r, p), () -> n.instructionAt(r, p));

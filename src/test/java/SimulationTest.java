@@ -19,47 +19,12 @@ final class SimulationTest {
         }
     }
 
-    /** Makes a turn by the calls that the document names; returns the checkpoints that are passed. */
-    private static int turn(BeltFloor f, long x) {
-        int r = (int) (x >>> 33);
-        int q = r / 16;
-        try {
-            switch (r % 16) {
-                case 0, 1, 2 -> f.setKind(q % 36, q / 64 % 7);
-                case 3, 4 -> f.addCrate(q % 36);
-                case 5 -> f.addCheckpoint(q % 36);
-                case 6 -> f.putRobot(q % 2, q / 2 % 36, q / 128 % 4);
-                case 7, 8, 9, 10 -> f.write(q % 2, q / 2 % 6);
-                case 11 -> {
-                    if (q / 2 % 4 == 0) {
-                        f.wipe(q % 2);
-                    }
-                }
-                default -> {
-                    return f.step(1 + q % 4);
-                }
-            }
-        } catch (RuntimeException e) {
-            // What would throw is left out.
-        }
-        return 0;
-    }
-
-    private static long following(long x) {
-        return x * 6364136223846793005L + 1442695040888963407L;
-    }
-
     private static void compare(String text, long seed, int m) {
-        BeltFloor f = Floors.of(text);
-        BeltFloor twin = Floors.of(text);
-        long x = seed;
-        int passed = 0;
-        for (int i = 0; i < m; i++) {
-            x = following(x);
-            passed += turn(twin, x);
-        }
-        Check.same("simulate(" + seed + ", " + m + ") of " + text, f.simulate(seed, m),
-                10000 * passed + 100 * twin.cellOf(0) + twin.cellOf(1));
+        int due = Turns.due(f -> {
+            Floors.type(f, text);
+            f.load();
+        }, seed, m);
+        Check.same("simulate(" + seed + ", " + m + ") of " + text, Floors.of(text).simulate(seed, m), due);
     }
 
     private static void eachTurn() {

@@ -1,6 +1,6 @@
 /** Promise 32: what happens in a step. */
 final class StepTest {
-    private static final String FREE = "...... ...... ...... ...... ...... ......";
+    private static final String FREE = Floors.FREE;
 
     public static void main(String[] args) {
         instructions();
@@ -22,20 +22,8 @@ final class StepTest {
         Check.end();
     }
 
-    /** The cells and directions of the robots, and the cells of the crates, as one text. */
     private static void looks(String what, BeltFloor f, String due) {
-        StringBuilder s = new StringBuilder();
-        for (int robot = 0; robot < 2; robot++) {
-            s.append(f.cellOf(robot)).append("nesw".charAt(f.facingOf(robot))).append(' ');
-        }
-        for (int cell = 0; cell < 36; cell++) {
-            s.append(f.hasCrate(cell) ? "c" + cell + " " : "");
-        }
-        String got = s.toString().trim();
-        if (!got.equals(due)) {
-            System.out.println(what + " looks " + got + ", due is " + due);
-        }
-        Check.same(what, got.equals(due), true);
+        Check.same(what, Floors.look(f), due);
     }
 
     private static void after(String rows, String items, int steps, String due) {

@@ -235,7 +235,7 @@ final class TextTest {
     private static int leftOut(String text) {
         BeltFloor f = new BeltFloor();
         Floors.type(f, text);
-        int left = (int) f.load();
+        int left = f.load();
         Check.badState("undo behind load of " + text, () -> f.undo());
         return left;
     }

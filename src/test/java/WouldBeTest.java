@@ -1,6 +1,6 @@
 /** Promises 34 to 40: what would be. */
 final class WouldBeTest {
-    private static final String FREE = "...... ...... ...... ...... ...... ......";
+    private static final String FREE = Floors.FREE;
     /** The robot 0 goes along the rows 0, 2 and 4, and is carried back along the rows 1 and 3. */
     private static final String WINDING = ".....s swwwww .....s swwwww .....s ....ww";
 
