@@ -29,6 +29,36 @@ final class BeltSentences {
                 BeltSentences::noFreeCellForTheOther);
     }
 
+    /** A floor with crates, each on a belt: pairs of a cell and a direction. The robots are on cells beside the way. */
+    private static BeltFloor crates(int... belts) {
+        BeltFloor f = new BeltFloor();
+        int[] aside = new int[2];
+        int found = 0;
+        for (int cell = 0; found < 2; cell++) {
+            boolean free = true;
+            for (int i = 0; i < belts.length; i += 2) {
+                free &= cell != belts[i] && cell != Floors.beside(belts[i], belts[i + 1]);
+            }
+            if (free) {
+                aside[found++] = cell;
+            }
+        }
+        Floors.putRobots(f, aside[0], 0, aside[1], 0);
+        for (int i = 0; i < belts.length; i += 2) {
+            f.setKind(belts[i], 3 + belts[i + 1]);
+            f.addCrate(belts[i]);
+        }
+        return f;
+    }
+
+    /** None of the crates on belts is carried. */
+    private static void staying(String what, int... belts) {
+        BeltFloor f = crates(belts);
+        String before = Floors.look(f);
+        f.step(1);
+        Check.same(what, Floors.look(f), before);
+    }
+
     private static void step(String rows, String items, String due) {
         BeltFloor f = Floors.of(rows, items);
         f.step(1);
@@ -44,6 +74,17 @@ final class BeltSentences {
         step("...... .e.... ...... ...... ...... ......", "r0072", "8s 35n");
         step("...... .s.... ...... ...... ...... ......", "r1073", "30n 13w");
         step("...... .w.... ...... ...... ...... ......", "r1073", "30n 6w");
+        // From each cell in each direction.
+        for (int cell = 0; cell < 36; cell++) {
+            for (int direction = 0; direction < 4; direction++) {
+                int to = Floors.beside(cell, direction);
+                if (to >= 0) {
+                    BeltFloor f = crates(cell, direction);
+                    f.step(1);
+                    Check.same("carried from " + cell, f.hasCrate(to) && f.cratesByCells() == 1, true);
+                }
+            }
+        }
         // By one cell alone, and from floor not at all.
         step("...... .eee.. ...... ...... ...... ......", "c07c13", "30n 35n c8 c13");
         BeltFloor f = Floors.of("...... .eee.. ...... ...... ...... ......", "c07");
@@ -99,6 +140,18 @@ final class BeltSentences {
         step("...... .e.... ..n... ...... ...... ......", "r0143r1070", "14w 7n");
         step("..s... .e.w.. ..n... ...... ...... ......", "c02c07c09c14", "30n 35n c2 c7 c9 c14");
         step("..s... .e.w.. ..n... ...... ...... ......", "c02c09c14", "30n 35n c2 c9 c14");
+        // To each cell, from each two sides.
+        for (int cell = 0; cell < 36; cell++) {
+            for (int one = 0; one < 4; one++) {
+                for (int other = one + 1; other < 4; other++) {
+                    int first = Floors.beside(cell, one);
+                    int second = Floors.beside(cell, other);
+                    if (first >= 0 && second >= 0) {
+                        staying("both want to " + cell, first, (one + 2) % 4, second, (other + 2) % 4);
+                    }
+                }
+            }
+        }
         // To the same pit, too; and to a cell whose own thing is carried away.
         step("...... .eow.. ...... ...... ...... ......", "c07c09", "30n 35n c7 c9");
         step("..s... .eee.. ...... ...... ...... ......", "c02c07c08", "30n 35n c2 c7 c9");
@@ -115,6 +168,14 @@ final class BeltSentences {
         step("...... .s.... .n.... ...... ...... ......", "r0071c13", "7e 35n c13");
         step("...... eew... ...... ...... ...... ......", "c06c07c08", "30n 35n c6 c7 c8");
         step("...... .ewww. ...... ...... ...... ......", "c07c08c09c10", "30n 35n c7 c8 c9 c10");
+        for (int cell = 0; cell < 36; cell++) {
+            for (int direction = 1; direction <= 2; direction++) {
+                int beside = Floors.beside(cell, direction);
+                if (beside >= 0) {
+                    staying(cell + " and " + beside, cell, direction, beside, (direction + 2) % 4);
+                }
+            }
+        }
     }
 
     private static void aThingThatIsNotCarried() {
@@ -127,6 +188,19 @@ final class BeltSentences {
         step("...... ee.ww. ..n... ...... ...... ......", "c06c07c09", "30n 35n c6 c7 c9");
         step("...... eesw.. ...... ...... ...... ......", "c06c07c08c09", "30n 35n c6 c7 c9 c14");
         step("...... .es... ..#... ...... ...... ......", "c07c08", "30n 35n c7 c8");
+        // From each cell in each direction; the other thing is on floor.
+        for (int cell = 0; cell < 36; cell++) {
+            for (int direction = 0; direction < 4; direction++) {
+                int beside = Floors.beside(cell, direction);
+                if (beside >= 0) {
+                    BeltFloor f = crates(cell, direction);
+                    f.addCrate(beside);
+                    String before = Floors.look(f);
+                    f.step(1);
+                    Check.same(cell + " before " + beside, Floors.look(f), before);
+                }
+            }
+        }
         // A thing that stops there in the same step is no less there.
         step("...... e..... ...... ...... ...... ......", "c06r0083i00.", "7w 35n c6");
     }
@@ -288,6 +362,9 @@ final class BeltSentences {
         g.step(1);
         Check.same("neither belt nor pit", Floors.look(g), "2n 35n");
         // The cell that the other robot has left in the same step is free.
+        BeltFloor last = Floors.of("###### ###### ###### ###### o##### n###..", "r1343");
+        last.step(1);
+        Check.same("the very last cell", Floors.look(last), "35n 34w");
         falling("a cell that was left", "...... ...... ...... ...... o..... ......", "r1001c01i10.", "0n 1e c2");
     }
 

@@ -160,6 +160,11 @@ final class TextCallSentences {
         Check.same("kind of 14", f.kindOf(14), 0);
         f.step(1);
         Check.same("neither belt nor pit", Floors.look(f) + " " + Floors.counts(f), "30n 35n 0 0 0 0, 0 0 0 0");
+        Floors.putRobots(f, 20, 0, 21, 0);
+        f.addCrate(30);
+        f.addCrate(35);
+        f.step(1);
+        Check.same("nor for crates", Floors.look(f), "20n 21n c30 c35");
     }
 
     private static void givesKinds() {

@@ -312,6 +312,13 @@ final class WouldBeSentences {
         loop(FREE, "i10555555552.", 40);
         loop(FREE, "i10555555552.p35p34p28", 40);
         loop(FREE, "i10555555552.p35p34p28p29", -1);
+        // The fourth one in the step 120: then it is passed for good.
+        loop(FREE, "r0140i03555555550.p20p21p15p14", 40);
+        loop(FREE, "r1150i12555555550.p21p20p14p15", 40);
+        // Behind all four, the rest is still compared.
+        loop(FREE, "i005.p24p18p12p06", 2);
+        loop(FREE, "i105.p29p23p17p11", 2);
+        loop(FREE, "i0005.p24p18p12p06", 3);
     }
 
     private static void places() {
